@@ -820,7 +820,8 @@ public final class VolumeShepherd {
             int healed = 0;
             int first = disk * MAX_SLOTS;
             for (int address = first; address < first + size[disk]; address++) {
-                if (rotten[address] && disksWithGoodCopy(holder[address]) != 0) {
+                int block = holder[address];
+                if (block != NONE && rotten[address] && disksWithGoodCopy(block) != 0) {
                     rotten[address] = false;
                     healed++;
                 }

@@ -15,6 +15,7 @@ public final class FaultsAndRebuildingTest {
         rebuildsBeforeMoves();
         rebuildsWhatHasPlaces();
         movesOldestFirst();
+        hurryIsShared();
         movedCopyIsGood();
         lostBlocksAreLeft();
         firstWrittenStays();
@@ -275,6 +276,37 @@ public final class FaultsAndRebuildingTest {
         due.is("usedOn(0)", x.usedOn(0), 0);
         due.is("usedOn(1)", x.usedOn(1), 0);
         due.is("diskState(0), still warned of", x.diskState(0), 'w');
+    }
+
+    /** The copies that are made and those that are moved share the hurry. */
+    private static void hurryIsShared() {
+        due.promise(35);
+        VolumeShepherd x = array(32, 32, 32);
+        x.addTenant(3, 0);
+        for (int block = 0; block < 3; block++) {
+            put(x, 0, block, block);
+        }
+        x.fail(0);
+        x.addDisk(32);
+        x.warn(1);
+        x.setHurry(8);
+        x.pass(1);
+        due.is("rebuilt(), three made, none moved without a place", x.rebuilt(), 3);
+        x.replace(0);
+        x.pass(1);
+        due.is("rebuilt(), three moved", x.rebuilt(), 6);
+        x.fail(2);
+        x.replace(2);
+        x.warn(3);
+        x.addDisk(32);
+        due.is("openRebuilds()", x.openRebuilds(), 6);
+        x.pass(1);
+        due.is("rebuilt(), three made, one moved", x.rebuilt(), 10);
+        due.is("usedOn(3)", x.usedOn(3), 2);
+        x.setHurry(2);
+        x.pass(1);
+        due.is("rebuilt(), one moved", x.rebuilt(), 11);
+        due.is("usedOn(3)", x.usedOn(3), 1);
     }
 
     private static void movedCopyIsGood() {

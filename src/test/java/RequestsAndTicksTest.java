@@ -16,6 +16,7 @@ public final class RequestsAndTicksTest {
         unitsLeft();
         refusedRequestsTakeUnits();
         creditsAndBreaches();
+        oneCredit();
         creditsWhileRebuilding();
         pass();
         clockEnds();
@@ -414,6 +415,26 @@ public final class RequestsAndTicksTest {
         due.is("creditsOf(1)", y.creditsOf(1), 10);
         due.promise(16);
         due.is("breachesOf(1)", y.breachesOf(1), 1);
+    }
+
+    /** A write of 3 units does not fit beside 18 units: one of the promised 7 is lacking. */
+    private static void oneCredit() {
+        VolumeShepherd x = array(3, 32);
+        x.addTenant(3, 7);
+        x.addTenant(1, 0);
+        for (int i = 0; i < 7; i++) {
+            x.write(0, i, i);
+        }
+        x.pass(1);
+        due.promise(15);
+        due.is("creditsOf(0)", x.creditsOf(0), 1);
+        due.is("creditsOf(1)", x.creditsOf(1), 0);
+        due.promise(16);
+        due.is("breachesOf(0)", x.breachesOf(0), 1);
+        x.pass(9);
+        due.is("breachesOf(0), nothing waiting", x.breachesOf(0), 1);
+        due.promise(15);
+        due.is("creditsOf(0), nothing waiting", x.creditsOf(0), 1);
     }
 
     /** Rebuilding takes 10 units a tick, so that 10 of the 12 promised reads are served. */
