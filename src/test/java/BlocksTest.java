@@ -18,29 +18,16 @@ public final class BlocksTest {
         due.end();
     }
 
-    private static VolumeShepherd array(int... slots) {
-        VolumeShepherd x = new VolumeShepherd();
-        for (int number : slots) {
-            x.addDisk(number);
-        }
-        return x;
-    }
-
-    private static void put(VolumeShepherd x, int tenant, int block, int value) {
-        x.write(tenant, block, value);
-        x.pass(1);
-    }
-
     private static void blocksOf() {
         due.promise(19);
-        VolumeShepherd x = array(9, 9);
+        VolumeShepherd x = Steps.array(9, 9);
         x.addTenant(2, 0);
         x.addTenant(1, 0);
         due.is("blocksOf(0)", x.blocksOf(0), 0);
-        put(x, 0, 0, 1);
-        put(x, 0, 99, 1);
-        put(x, 0, 0, 2);
-        put(x, 1, 0, 1);
+        Steps.put(x, 0, 0, 1);
+        Steps.put(x, 0, 99, 1);
+        Steps.put(x, 0, 0, 2);
+        Steps.put(x, 1, 0, 1);
         due.is("blocksOf(0)", x.blocksOf(0), 2);
         due.is("blocksOf(1)", x.blocksOf(1), 1);
         x.fail(0);
@@ -52,7 +39,7 @@ public final class BlocksTest {
         due.is("blocksOf(1) after a refused write", x.blocksOf(1), 1);
         x.replace(0);
         x.replace(1);
-        put(x, 0, 0, 3);
+        Steps.put(x, 0, 0, 3);
         due.is("blocksOf(0), a lost one written", x.blocksOf(0), 2);
         int[] wrong = {-1, 2, 4, Integer.MAX_VALUE, Integer.MIN_VALUE};
         for (int tenant : wrong) {
@@ -62,13 +49,13 @@ public final class BlocksTest {
     }
 
     private static void copies() {
-        VolumeShepherd x = array(4, 4, 4, 4);
+        VolumeShepherd x = Steps.array(4, 4, 4, 4);
         x.addTenant(3, 0);
         x.addTenant(1, 0);
         x.setHurry(0);
         areCopies(x, 0, 50, 0);
-        put(x, 0, 50, 1);
-        put(x, 1, 50, 1);
+        Steps.put(x, 0, 50, 1);
+        Steps.put(x, 1, 50, 1);
         areCopies(x, 0, 50, 3);
         areCopies(x, 1, 50, 1);
         areCopies(x, 0, 49, 0);
@@ -76,7 +63,7 @@ public final class BlocksTest {
         areCopies(x, 0, 50, 3);
         x.fail(1);
         areCopies(x, 0, 50, 2);
-        put(x, 0, 50, 2);
+        Steps.put(x, 0, 50, 2);
         areCopies(x, 0, 50, 2);
         x.setHurry(2);
         x.pass(1);
@@ -98,9 +85,9 @@ public final class BlocksTest {
 
     private static void diskOfCopy() {
         due.promise(22);
-        VolumeShepherd x = array(3, 5, 4, 1);
+        VolumeShepherd x = Steps.array(3, 5, 4, 1);
         x.addTenant(3, 0);
-        put(x, 0, 1, 1);
+        Steps.put(x, 0, 1, 1);
         due.is("diskOfCopy(0, 1, 0)", x.diskOfCopy(0, 1, 0), 1);
         due.is("diskOfCopy(0, 1, 1)", x.diskOfCopy(0, 1, 1), 2);
         due.is("diskOfCopy(0, 1, 2)", x.diskOfCopy(0, 1, 2), 0);
@@ -128,29 +115,29 @@ public final class BlocksTest {
 
     private static void places() {
         due.promise(22);
-        VolumeShepherd x = array(2, 3, 3);
+        VolumeShepherd x = Steps.array(2, 3, 3);
         x.addTenant(1, 0);
         int[] disks = {1, 2, 0, 1, 2, 0, 1, 2};
         for (int block = 0; block < 8; block++) {
-            put(x, 0, block, block);
+            Steps.put(x, 0, block, block);
             due.is("diskOfCopy(0, " + block + ", 0)", x.diskOfCopy(0, block, 0), disks[block]);
         }
         x.write(0, 8, 8);
         x.pass(1);
         due.is("stateOf(8), no slot is free", x.stateOf(8), 'x');
-        VolumeShepherd y = array(9, 8, 2);
+        VolumeShepherd y = Steps.array(9, 8, 2);
         y.addTenant(1, 0);
         y.warn(0);
-        put(y, 0, 0, 0);
+        Steps.put(y, 0, 0, 0);
         due.is("diskOfCopy, not on a disk warned of", y.diskOfCopy(0, 0, 0), 1);
         y.fail(1);
-        put(y, 0, 1, 0);
+        Steps.put(y, 0, 1, 0);
         due.is("diskOfCopy, not on a failed disk", y.diskOfCopy(0, 1, 0), 2);
     }
 
     private static void valueOf() {
         due.promise(23);
-        VolumeShepherd x = array(4, 4);
+        VolumeShepherd x = Steps.array(4, 4);
         x.addTenant(2, 0);
         due.isThrown("valueOf(0, 0), unwritten", NoSuchElementException.class,
                 () -> x.valueOf(0, 0));
@@ -164,9 +151,9 @@ public final class BlocksTest {
         x.rot(1, 0);
         due.isThrown("valueOf(0, 0), lost", NoSuchElementException.class,
                 () -> x.valueOf(0, 0));
-        put(x, 0, 0, 0);
+        Steps.put(x, 0, 0, 0);
         due.is("valueOf(0, 0), zero", x.valueOf(0, 0), 0);
-        put(x, 0, 0, 9999);
+        Steps.put(x, 0, 0, 9999);
         due.is("valueOf(0, 0)", x.valueOf(0, 0), 9999);
         x.fail(0);
         x.fail(1);
@@ -176,10 +163,10 @@ public final class BlocksTest {
 
     private static void isLost() {
         due.promise(24);
-        VolumeShepherd x = array(4, 4);
+        VolumeShepherd x = Steps.array(4, 4);
         x.addTenant(2, 0);
         due.is("isLost(0, 0), unwritten", x.isLost(0, 0), false);
-        put(x, 0, 0, 7);
+        Steps.put(x, 0, 0, 7);
         due.is("isLost(0, 0)", x.isLost(0, 0), false);
         x.rot(0, 0);
         due.is("isLost(0, 0), one rotten", x.isLost(0, 0), false);
@@ -193,18 +180,18 @@ public final class BlocksTest {
         x.pass(3);
         due.is("isLost(0, 0), not rebuilt", x.isLost(0, 0), true);
         due.is("copiesOf(0, 0), not rebuilt", x.copiesOf(0, 0), 0);
-        put(x, 0, 0, 8);
+        Steps.put(x, 0, 0, 8);
         due.is("isLost(0, 0), written", x.isLost(0, 0), false);
     }
 
     private static void lostAndDegraded() {
-        VolumeShepherd x = array(4, 4, 4);
+        VolumeShepherd x = Steps.array(4, 4, 4);
         x.addTenant(2, 0);
         x.addTenant(1, 0);
         x.setHurry(0);
-        put(x, 0, 0, 1);
-        put(x, 0, 1, 1);
-        put(x, 1, 0, 1);
+        Steps.put(x, 0, 0, 1);
+        Steps.put(x, 0, 1, 1);
+        Steps.put(x, 1, 0, 1);
         areLostAndDegraded(x, 0, 0);
         x.rot(0, 0);
         areLostAndDegraded(x, 0, 0);
@@ -217,7 +204,7 @@ public final class BlocksTest {
         x.fail(0);
         areLostAndDegraded(x, 3, 3);
         x.replace(0);
-        put(x, 1, 0, 1);
+        Steps.put(x, 1, 0, 1);
         areLostAndDegraded(x, 2, 2);
     }
 
@@ -229,13 +216,13 @@ public final class BlocksTest {
     }
 
     private static void bear() {
-        VolumeShepherd x = array(9, 9, 9, 9);
+        VolumeShepherd x = Steps.array(9, 9, 9, 9);
         x.addTenant(3, 0);
         x.addTenant(2, 0);
         doBear(x, true, true, true, true);
-        put(x, 0, 0, 1);
+        Steps.put(x, 0, 0, 1);
         doBear(x, true, true, true, false);
-        put(x, 1, 0, 1);
+        Steps.put(x, 1, 0, 1);
         doBear(x, true, true, false, false);
         x.warn(3);
         x.setHurry(0);
@@ -271,26 +258,26 @@ public final class BlocksTest {
     }
 
     private static void bearFewDisks() {
-        VolumeShepherd x = array(3);
+        VolumeShepherd x = Steps.array(3);
         x.addTenant(1, 0);
         doBear(x, true, true, true, true);
-        put(x, 0, 0, 1);
+        Steps.put(x, 0, 0, 1);
         doBear(x, true, false, false, false);
         x.fail(0);
         doBear(x, true, true, true, true);
-        VolumeShepherd y = array(3, 3, 3);
+        VolumeShepherd y = Steps.array(3, 3, 3);
         y.addTenant(2, 0);
-        put(y, 0, 0, 1);
+        Steps.put(y, 0, 0, 1);
         y.fail(2);
         doBear(y, true, true, false, false);
     }
 
     private static void noSuchBlock() {
-        VolumeShepherd x = array(4);
+        VolumeShepherd x = Steps.array(4);
         isNoBlock(x, 0, 0);
         x.addTenant(1, 0);
         x.addTenant(1, 0);
-        put(x, 0, 0, 1);
+        Steps.put(x, 0, 0, 1);
         int[][] wrong = {{-1, 0}, {2, 0}, {4, 0}, {0, -1}, {0, 100}, {1, -1}, {2, 100},
             {Integer.MAX_VALUE, 0}, {Integer.MIN_VALUE, 0}, {0, Integer.MAX_VALUE},
             {0, Integer.MIN_VALUE}};

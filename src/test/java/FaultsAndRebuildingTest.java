@@ -25,34 +25,12 @@ public final class FaultsAndRebuildingTest {
         due.end();
     }
 
-    private static VolumeShepherd array(int... slots) {
-        VolumeShepherd x = new VolumeShepherd();
-        for (int number : slots) {
-            x.addDisk(number);
-        }
-        return x;
-    }
-
-    private static void put(VolumeShepherd x, int tenant, int block, int value) {
-        x.write(tenant, block, value);
-        x.pass(1);
-    }
-
-    private static String lineOf(VolumeShepherd x, int disk) {
-        int length = x.writeDisk(disk);
-        StringBuilder line = new StringBuilder();
-        for (int index = 0; index < length; index++) {
-            line.append(x.lineAt(index));
-        }
-        return line.toString();
-    }
-
     private static void fail() {
         due.promise(29);
-        VolumeShepherd x = array(4, 4);
+        VolumeShepherd x = Steps.array(4, 4);
         x.addTenant(2, 0);
-        put(x, 0, 0, 1);
-        put(x, 0, 1, 1);
+        Steps.put(x, 0, 0, 1);
+        Steps.put(x, 0, 1, 1);
         x.rot(0, 0);
         due.is("fail(0)", x.fail(0), 2);
         due.is("diskState(0)", x.diskState(0), 'f');
@@ -71,9 +49,9 @@ public final class FaultsAndRebuildingTest {
 
     private static void replace() {
         due.promise(30);
-        VolumeShepherd x = array(4, 3, 2);
+        VolumeShepherd x = Steps.array(4, 3, 2);
         x.addTenant(1, 0);
-        put(x, 0, 0, 1);
+        Steps.put(x, 0, 0, 1);
         due.isThrown("replace(0), sound", IllegalStateException.class, () -> x.replace(0));
         x.warn(1);
         due.isThrown("replace(1), warned of", IllegalStateException.class, () -> x.replace(1));
@@ -97,10 +75,10 @@ public final class FaultsAndRebuildingTest {
 
     private static void warn() {
         due.promise(31);
-        VolumeShepherd x = array(4, 4);
+        VolumeShepherd x = Steps.array(4, 4);
         x.addTenant(2, 0);
-        put(x, 0, 0, 1);
-        put(x, 0, 1, 1);
+        Steps.put(x, 0, 0, 1);
+        Steps.put(x, 0, 1, 1);
         due.is("warn(0)", x.warn(0), 2);
         due.is("diskState(0)", x.diskState(0), 'w');
         due.is("usedOn(0)", x.usedOn(0), 2);
@@ -114,9 +92,9 @@ public final class FaultsAndRebuildingTest {
 
     private static void rot() {
         due.promise(32);
-        VolumeShepherd x = array(2, 32);
+        VolumeShepherd x = Steps.array(2, 32);
         x.addTenant(2, 0);
-        put(x, 0, 0, 1);
+        Steps.put(x, 0, 0, 1);
         due.is("rot(0, 0)", x.rot(0, 0), false);
         due.is("rot(0, 0) again", x.rot(0, 0), true);
         due.is("rottenOn(0)", x.rottenOn(0), 1);
@@ -139,10 +117,10 @@ public final class FaultsAndRebuildingTest {
 
     private static void scrub() {
         due.promise(33);
-        VolumeShepherd x = array(4, 4);
+        VolumeShepherd x = Steps.array(4, 4);
         x.addTenant(2, 0);
         for (int block = 0; block < 3; block++) {
-            put(x, 0, block, block);
+            Steps.put(x, 0, block, block);
         }
         due.is("scrub(0), nothing rotten", x.scrub(0), 0);
         x.rot(0, 0);
@@ -166,18 +144,18 @@ public final class FaultsAndRebuildingTest {
 
     private static void rottenOn() {
         due.promise(34);
-        VolumeShepherd x = array(4, 4);
+        VolumeShepherd x = Steps.array(4, 4);
         x.addTenant(1, 0);
         x.addTenant(2, 0);
-        put(x, 1, 0, 1);
-        put(x, 1, 1, 1);
+        Steps.put(x, 1, 0, 1);
+        Steps.put(x, 1, 1, 1);
         due.is("rottenOn(0)", x.rottenOn(0), 0);
         x.rot(0, 0);
         x.rot(0, 1);
         x.rot(1, 1);
         due.is("rottenOn(0)", x.rottenOn(0), 2);
         due.is("rottenOn(1)", x.rottenOn(1), 1);
-        put(x, 1, 0, 2);
+        Steps.put(x, 1, 0, 2);
         due.is("rottenOn(0) after a write", x.rottenOn(0), 1);
         x.fail(0);
         due.is("rottenOn(0), failed", x.rottenOn(0), 0);
@@ -188,23 +166,23 @@ public final class FaultsAndRebuildingTest {
     /** The order of the first writes, not that of the numbers. */
     private static void rebuildsInOrder() {
         due.promise(35);
-        VolumeShepherd x = array(9, 9);
+        VolumeShepherd x = Steps.array(9, 9);
         x.addTenant(2, 0);
         x.addTenant(2, 0);
-        put(x, 1, 5, 1);
-        put(x, 0, 9, 1);
-        put(x, 0, 2, 1);
-        put(x, 1, 5, 2);
+        Steps.put(x, 1, 5, 1);
+        Steps.put(x, 0, 9, 1);
+        Steps.put(x, 0, 2, 1);
+        Steps.put(x, 1, 5, 2);
         x.fail(1);
         x.replace(1);
         x.setHurry(4);
         due.is("rebuilt()", x.rebuilt(), 0);
         x.pass(1);
         due.is("rebuilt()", x.rebuilt(), 2);
-        due.is("disk 1", lineOf(x, 1), "s 1.5 0.9");
+        due.is("disk 1", Steps.lineOf(x, 1), "s 1.5 0.9");
         x.pass(1);
         due.is("rebuilt()", x.rebuilt(), 3);
-        due.is("disk 1", lineOf(x, 1), "s 1.5 0.9 0.2");
+        due.is("disk 1", Steps.lineOf(x, 1), "s 1.5 0.9 0.2");
         x.pass(2);
         due.is("rebuilt()", x.rebuilt(), 3);
         due.is("openRebuilds()", x.openRebuilds(), 0);
@@ -212,11 +190,11 @@ public final class FaultsAndRebuildingTest {
 
     /** Degraded blocks come first, also those that were written last. */
     private static void rebuildsBeforeMoves() {
-        VolumeShepherd x = array(4, 4, 1);
+        VolumeShepherd x = Steps.array(4, 4, 1);
         x.addTenant(1, 0);
         x.addTenant(2, 0);
-        put(x, 0, 0, 1);
-        put(x, 1, 0, 1);
+        Steps.put(x, 0, 0, 1);
+        Steps.put(x, 1, 0, 1);
         due.is("diskOfCopy(0, 0, 0)", x.diskOfCopy(0, 0, 0), 0);
         x.fail(1);
         x.warn(0);
@@ -225,16 +203,16 @@ public final class FaultsAndRebuildingTest {
         due.promise(35);
         x.pass(1);
         due.is("rebuilt()", x.rebuilt(), 1);
-        due.is("disk 2", lineOf(x, 2), "s 1.0");
-        due.is("disk 0", lineOf(x, 0), "w 0.0 1.0");
+        due.is("disk 2", Steps.lineOf(x, 2), "s 1.0");
+        due.is("disk 0", Steps.lineOf(x, 0), "w 0.0 1.0");
     }
 
     private static void rebuildsWhatHasPlaces() {
         due.promise(35);
-        VolumeShepherd x = array(4, 4, 4);
+        VolumeShepherd x = Steps.array(4, 4, 4);
         x.addTenant(3, 0);
-        put(x, 0, 0, 1);
-        put(x, 0, 1, 1);
+        Steps.put(x, 0, 0, 1);
+        Steps.put(x, 0, 1, 1);
         x.fail(1);
         x.fail(2);
         x.pass(1);
@@ -253,9 +231,9 @@ public final class FaultsAndRebuildingTest {
 
     private static void movesOldestFirst() {
         due.promise(35);
-        VolumeShepherd x = array(3, 3, 3, 1, 2);
+        VolumeShepherd x = Steps.array(3, 3, 3, 1, 2);
         x.addTenant(3, 0);
-        put(x, 0, 0, 1);
+        Steps.put(x, 0, 0, 1);
         x.warn(0);
         x.warn(1);
         x.setHurry(3);
@@ -281,10 +259,10 @@ public final class FaultsAndRebuildingTest {
     /** The copies that are made and those that are moved share the hurry. */
     private static void hurryIsShared() {
         due.promise(35);
-        VolumeShepherd x = array(32, 32, 32);
+        VolumeShepherd x = Steps.array(32, 32, 32);
         x.addTenant(3, 0);
         for (int block = 0; block < 3; block++) {
-            put(x, 0, block, block);
+            Steps.put(x, 0, block, block);
         }
         x.fail(0);
         x.addDisk(32);
@@ -311,76 +289,76 @@ public final class FaultsAndRebuildingTest {
 
     private static void movedCopyIsGood() {
         due.promise(35);
-        VolumeShepherd x = array(3, 3, 3);
+        VolumeShepherd x = Steps.array(3, 3, 3);
         x.addTenant(2, 0);
-        put(x, 0, 0, 6);
+        Steps.put(x, 0, 0, 6);
         x.rot(0, 0);
         x.warn(0);
         x.pass(1);
         due.is("rebuilt()", x.rebuilt(), 1);
-        due.is("disk 0", lineOf(x, 0), "w");
-        due.is("disk 2", lineOf(x, 2), "s 0.0");
+        due.is("disk 0", Steps.lineOf(x, 0), "w");
+        due.is("disk 2", Steps.lineOf(x, 2), "s 0.0");
         x.fail(1);
         due.is("valueOf(0, 0) of the moved copy", x.valueOf(0, 0), 6);
-        VolumeShepherd y = array(3, 3, 3);
+        VolumeShepherd y = Steps.array(3, 3, 3);
         y.addTenant(3, 0);
-        put(y, 0, 0, 6);
+        Steps.put(y, 0, 0, 6);
         y.rot(0, 0);
         y.fail(1);
         y.replace(1);
         y.pass(1);
-        due.is("disk 0, still rotten", lineOf(y, 0), "s 0.0!");
-        due.is("disk 1, made from the good one", lineOf(y, 1), "s 0.0");
+        due.is("disk 0, still rotten", Steps.lineOf(y, 0), "s 0.0!");
+        due.is("disk 1, made from the good one", Steps.lineOf(y, 1), "s 0.0");
     }
 
     private static void lostBlocksAreLeft() {
         due.promise(36);
-        VolumeShepherd x = array(3, 3, 3);
+        VolumeShepherd x = Steps.array(3, 3, 3);
         x.addTenant(2, 0);
-        put(x, 0, 0, 6);
+        Steps.put(x, 0, 0, 6);
         x.rot(0, 0);
         x.fail(1);
         x.warn(0);
         due.is("openRebuilds() of a lost block", x.openRebuilds(), 0);
         x.pass(1);
         due.is("rebuilt()", x.rebuilt(), 0);
-        due.is("disk 0", lineOf(x, 0), "w 0.0!");
+        due.is("disk 0", Steps.lineOf(x, 0), "w 0.0!");
     }
 
     /** A block that was lost and written again keeps its turn. */
     private static void firstWrittenStays() {
         due.promise(35);
-        VolumeShepherd x = array(9, 9);
+        VolumeShepherd x = Steps.array(9, 9);
         x.addTenant(2, 0);
-        put(x, 0, 0, 1);
-        put(x, 0, 1, 1);
+        Steps.put(x, 0, 0, 1);
+        Steps.put(x, 0, 1, 1);
         x.rot(0, 0);
         x.rot(1, 0);
-        put(x, 0, 0, 2);
+        Steps.put(x, 0, 0, 2);
         x.fail(1);
         x.replace(1);
         x.setHurry(2);
         x.pass(1);
-        due.is("disk 1", lineOf(x, 1), "s 0.0");
-        VolumeShepherd y = array(9);
+        due.is("disk 1", Steps.lineOf(x, 1), "s 0.0");
+        VolumeShepherd y = Steps.array(9);
         y.addTenant(2, 0);
-        put(y, 0, 0, 1);
+        Steps.put(y, 0, 0, 1);
         y.addDisk(9);
-        put(y, 0, 1, 1);
-        put(y, 0, 0, 1);
+        Steps.put(y, 0, 1, 1);
+        Steps.put(y, 0, 0, 1);
         y.fail(0);
         y.replace(0);
         y.setHurry(2);
         y.pass(1);
-        due.is("disk 0, a refused write is no first one", lineOf(y, 0), "s 0.1");
+        due.is("disk 0, a refused write is no first one", Steps.lineOf(y, 0), "s 0.1");
     }
 
     private static void openRebuildsChangesNothing() {
         due.promise(36);
-        VolumeShepherd x = array(9, 9, 9);
+        VolumeShepherd x = Steps.array(9, 9, 9);
         x.addTenant(3, 0);
         for (int block = 0; block < 4; block++) {
-            put(x, 0, block, block);
+            Steps.put(x, 0, block, block);
         }
         x.fail(2);
         x.addDisk(9);
@@ -406,12 +384,12 @@ public final class FaultsAndRebuildingTest {
     /** What the first time takes is no place for the second time. */
     private static void openRebuildsOfFewPlaces() {
         due.promise(36);
-        VolumeShepherd x = array(9, 9, 3);
+        VolumeShepherd x = Steps.array(9, 9, 3);
         x.addTenant(2, 0);
         for (int block = 0; block < 4; block++) {
-            put(x, 0, block, block);
+            Steps.put(x, 0, block, block);
         }
-        due.is("disk 2", lineOf(x, 2), "s");
+        due.is("disk 2", Steps.lineOf(x, 2), "s");
         x.fail(1);
         due.is("openRebuilds(), four for three slots", x.openRebuilds(), 3);
         x.addDisk(2);
@@ -423,7 +401,7 @@ public final class FaultsAndRebuildingTest {
     private static void noSuchDisk() {
         VolumeShepherd none = new VolumeShepherd();
         isNoDisk(none, 0);
-        VolumeShepherd x = array(3, 3);
+        VolumeShepherd x = Steps.array(3, 3);
         int[] wrong = {-1, 2, 8, Integer.MAX_VALUE, Integer.MIN_VALUE};
         for (int disk : wrong) {
             isNoDisk(x, disk);

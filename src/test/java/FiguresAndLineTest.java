@@ -12,22 +12,9 @@ public final class FiguresAndLineTest {
         due.end();
     }
 
-    private static VolumeShepherd array(int... slots) {
-        VolumeShepherd x = new VolumeShepherd();
-        for (int number : slots) {
-            x.addDisk(number);
-        }
-        return x;
-    }
-
-    private static void put(VolumeShepherd x, int tenant, int block, int value) {
-        x.write(tenant, block, value);
-        x.pass(1);
-    }
-
     private static void meanCopies() {
         due.promise(37);
-        VolumeShepherd x = array(9, 9, 9);
+        VolumeShepherd x = Steps.array(9, 9, 9);
         x.addTenant(3, 0);
         x.addTenant(1, 0);
         due.isThrown("meanCopies()", ArithmeticException.class, () -> x.meanCopies());
@@ -36,8 +23,8 @@ public final class FiguresAndLineTest {
                 () -> x.meanCopies());
         x.pass(1);
         due.is("meanCopies()", x.meanCopies(), 3.0);
-        put(x, 1, 0, 1);
-        put(x, 1, 1, 1);
+        Steps.put(x, 1, 0, 1);
+        Steps.put(x, 1, 1, 1);
         due.is("meanCopies()", x.meanCopies(), 5.0 / 3.0);
         x.rot(0, 0);
         due.is("meanCopies(), a rotten one", x.meanCopies(), 5.0 / 3.0);
@@ -56,9 +43,9 @@ public final class FiguresAndLineTest {
         x.addDisk(1);
         x.addTenant(1, 0);
         due.is("usedShare()", x.usedShare(), 0.0f);
-        put(x, 0, 0, 1);
+        Steps.put(x, 0, 0, 1);
         due.is("usedShare()", x.usedShare(), 1.0f / 3.0f);
-        put(x, 0, 1, 1);
+        Steps.put(x, 0, 1, 1);
         x.rot(0, 0);
         due.is("usedShare(), a rotten one", x.usedShare(), 2.0f / 3.0f);
         x.warn(1);
@@ -74,11 +61,11 @@ public final class FiguresAndLineTest {
 
     private static void isConsistent() {
         due.promise(39);
-        VolumeShepherd x = array(3, 3, 3, 3);
+        VolumeShepherd x = Steps.array(3, 3, 3, 3);
         x.addTenant(3, 0);
         due.is("isConsistent()", x.isConsistent(), true);
         for (int block = 0; block < 4; block++) {
-            put(x, 0, block, block);
+            Steps.put(x, 0, block, block);
         }
         due.is("isConsistent(), full", x.isConsistent(), true);
         x.rot(1, 1);
@@ -113,16 +100,16 @@ public final class FiguresAndLineTest {
     }
 
     private static void line() {
-        VolumeShepherd x = array(4, 4);
+        VolumeShepherd x = Steps.array(4, 4);
         isStillLine(x, "");
         x.addTenant(2, 0);
         x.addTenant(1, 0);
         x.addTenant(2, 0);
         isLine(x, 0, "s");
-        put(x, 0, 17, 1);
-        put(x, 2, 5, 1);
-        put(x, 1, 99, 1);
-        put(x, 1, 0, 1);
+        Steps.put(x, 0, 17, 1);
+        Steps.put(x, 2, 5, 1);
+        Steps.put(x, 1, 99, 1);
+        Steps.put(x, 1, 0, 1);
         isLine(x, 0, "s 0.17 2.5 1.99");
         isLine(x, 1, "s 0.17 2.5 1.0");
         x.rot(0, 1);
@@ -146,13 +133,13 @@ public final class FiguresAndLineTest {
     }
 
     private static void fullLine() {
-        VolumeShepherd x = array(32);
+        VolumeShepherd x = Steps.array(32);
         StringBuilder want = new StringBuilder("s");
         for (int tenant = 0; tenant < 4; tenant++) {
             x.addTenant(1, 0);
         }
         for (int i = 0; i < 32; i++) {
-            put(x, 3, 99 - i, i);
+            Steps.put(x, 3, 99 - i, i);
             x.rot(0, i);
             want.append(" 3.").append(99 - i).append('!');
         }
@@ -162,9 +149,9 @@ public final class FiguresAndLineTest {
     }
 
     private static void wrongDisksLeaveTheLine() {
-        VolumeShepherd x = array(4);
+        VolumeShepherd x = Steps.array(4);
         x.addTenant(1, 0);
-        put(x, 0, 1, 1);
+        Steps.put(x, 0, 1, 1);
         isLine(x, 0, "s 0.1");
         int[] wrong = {-1, 1, 8, Integer.MAX_VALUE, Integer.MIN_VALUE};
         for (int disk : wrong) {
