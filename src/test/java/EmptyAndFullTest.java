@@ -310,6 +310,8 @@ public final class EmptyAndFullTest {
         VolumeShepherd x = FULL.make();
         due.promise(31);
         due.is("warn(7)", x.warn(7), 32);
+        due.promise(39);
+        due.is("isConsistent(), copies on a disk warned of", x.isConsistent(), true);
         due.promise(36);
         due.is("openRebuilds(), no slot is free", x.openRebuilds(), 0);
         x.pass(2);
@@ -401,11 +403,11 @@ public final class EmptyAndFullTest {
                 x.pass(2);
             }
         }
-        for (int call = 309; call < 510; call++) {
+        for (int call = 309; call < 509; call++) {
             x.pass(48);
         }
-        due.is("the 510th call, clock()", x.clock(), 201 * 48 + 14);
-        due.is("the 511th call, answer to stateOf(299)", x.stateOf(299), 'd');
+        due.is("the 510th call, clock()", x.clock(), 200 * 48 + 14);
+        due.is("the 511th call, stateOf(299)", x.stateOf(299), 'd');
         due.is("the 512th call, valueOf(0, 1)", x.valueOf(0, 1), 299);
     }
 }

@@ -36,6 +36,7 @@ public final class TermsTest {
         madeWherePlacesAre();
         lostIsNotRebuilt();
         movedFromTheOldestOn();
+        movedWithinTheHurry();
         movedIfThereIsAPlace();
         movedAfterAllAreMade();
         movedOneIsGoodAndNewest();
@@ -800,6 +801,30 @@ public final class TermsTest {
         x.pass(1);
         areDisksOf(x, 0, 0, 0, 2, 5);
         areLines(x, "s 0.0", "w", "s 0.0", "w", "w", "s 0.0");
+    }
+
+    /** The hurry ends between two blocks, and within the second one. */
+    private static void movedWithinTheHurry() {
+        due.term("each copy that it makes or moves, as long as these are within the hurry");
+        int[][] hurryAndMoved = {{1, 0}, {2, 1}, {5, 2}, {6, 3}, {8, 4}, {11, 5}, {12, 6}, {20, 6}};
+        for (int[] pair : hurryAndMoved) {
+            VolumeShepherd x = Steps.array(2, 2, 2);
+            x.addTenant(3, 0);
+            Steps.put(x, 0, 0, 1);
+            Steps.put(x, 0, 1, 1);
+            for (int disk = 0; disk < 3; disk++) {
+                x.warn(disk);
+                x.addDisk(2);
+            }
+            x.setHurry(pair[0]);
+            x.pass(1);
+            due.is("rebuilt() with the hurry " + pair[0], x.rebuilt(), pair[1]);
+            int left = 0;
+            for (int disk = 0; disk < 3; disk++) {
+                left += x.usedOn(disk);
+            }
+            due.is("copies left with the hurry " + pair[0], left, 6 - pair[1]);
+        }
     }
 
     private static void movedIfThereIsAPlace() {
