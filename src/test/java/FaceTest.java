@@ -6,23 +6,51 @@ import java.lang.reflect.Modifier;
 import java.util.Set;
 import java.util.TreeSet;
 
-/** The class has the document's face and no other member that is not private. */
+/** The class has the document's face, with what its calls throw, and nothing else but private. */
 public final class FaceTest {
     private static final String[] FACE = {
         "VolumeShepherd()",
-        "int addDisk(int)", "int diskCount()", "char diskState(int)", "int usedOn(int)",
-        "int addTenant(int,int)", "int tenantCount()", "int setHurry(int)",
-        "int read(int,int)", "int write(int,int,int)", "char stateOf(int)", "int answerTo(int)",
-        "int waitingOf(int)", "int servedOf(int)", "int creditsOf(int)", "int breachesOf(int)",
-        "int pass(int)", "int clock()",
-        "int blocksOf(int)", "int copiesOf(int,int)", "int copiesByDisks(int,int)",
-        "int diskOfCopy(int,int,int)", "int valueOf(int,int)", "boolean isLost(int,int)",
-        "int lostBlocks()", "int degradedBlocks()", "boolean doesBear(int)",
-        "boolean doesBearByTrying(int)",
-        "int fail(int)", "int replace(int)", "int warn(int)", "boolean rot(int,int)",
-        "int scrub(int)", "int rottenOn(int)", "int rebuilt()", "int openRebuilds()",
-        "double meanCopies()", "float usedShare()", "boolean isConsistent()",
-        "int writeDisk(int)", "char lineAt(int)",
+        "int addDisk(int) throws IllegalArgumentException, IllegalStateException",
+        "int diskCount()",
+        "char diskState(int) throws IndexOutOfBoundsException",
+        "int usedOn(int) throws IndexOutOfBoundsException",
+        "int addTenant(int,int) throws IllegalArgumentException, IllegalStateException",
+        "int tenantCount()",
+        "int setHurry(int) throws IllegalArgumentException",
+        "int read(int,int) throws IndexOutOfBoundsException, IllegalStateException",
+        "int write(int,int,int) throws "
+                + "IndexOutOfBoundsException, IllegalArgumentException, IllegalStateException",
+        "char stateOf(int) throws IndexOutOfBoundsException",
+        "int answerTo(int) throws IndexOutOfBoundsException, NoSuchElementException",
+        "int waitingOf(int) throws IndexOutOfBoundsException",
+        "int servedOf(int) throws IndexOutOfBoundsException",
+        "int creditsOf(int) throws IndexOutOfBoundsException",
+        "int breachesOf(int) throws IndexOutOfBoundsException",
+        "int pass(int) throws IllegalArgumentException, IllegalStateException",
+        "int clock()",
+        "int blocksOf(int) throws IndexOutOfBoundsException",
+        "int copiesOf(int,int) throws IndexOutOfBoundsException",
+        "int copiesByDisks(int,int) throws IndexOutOfBoundsException",
+        "int diskOfCopy(int,int,int) throws IndexOutOfBoundsException, NoSuchElementException",
+        "int valueOf(int,int) throws IndexOutOfBoundsException, NoSuchElementException",
+        "boolean isLost(int,int) throws IndexOutOfBoundsException",
+        "int lostBlocks()",
+        "int degradedBlocks()",
+        "boolean doesBear(int) throws IllegalArgumentException",
+        "boolean doesBearByTrying(int) throws IllegalArgumentException",
+        "int fail(int) throws IndexOutOfBoundsException, IllegalStateException",
+        "int replace(int) throws IndexOutOfBoundsException, IllegalStateException",
+        "int warn(int) throws IndexOutOfBoundsException, IllegalStateException",
+        "boolean rot(int,int) throws IndexOutOfBoundsException, NoSuchElementException",
+        "int scrub(int) throws IndexOutOfBoundsException, IllegalStateException",
+        "int rottenOn(int) throws IndexOutOfBoundsException",
+        "int rebuilt()",
+        "int openRebuilds()",
+        "double meanCopies() throws ArithmeticException",
+        "float usedShare() throws ArithmeticException",
+        "boolean isConsistent()",
+        "int writeDisk(int) throws IndexOutOfBoundsException",
+        "char lineAt(int) throws IndexOutOfBoundsException",
     };
 
     public static void main(String[] args) {
@@ -59,7 +87,15 @@ public final class FaceTest {
         for (Class<?> type : member.getParameterTypes()) {
             types.append(types.length() == 0 ? "" : ",").append(type);
         }
-        String text = name + "(" + types + ")";
+        String text = name + "(" + types + ")" + thrown(member);
         open.add(Modifier.isPublic(member.getModifiers()) ? text : "not public: " + text);
+    }
+
+    private static String thrown(Executable member) {
+        StringBuilder text = new StringBuilder();
+        for (Class<?> type : member.getExceptionTypes()) {
+            text.append(text.length() == 0 ? " throws " : ", ").append(type.getSimpleName());
+        }
+        return text.toString();
     }
 }

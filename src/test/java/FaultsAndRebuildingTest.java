@@ -11,6 +11,7 @@ public final class FaultsAndRebuildingTest {
         rot();
         scrub();
         rottenOn();
+        rottenBehindFreeSlots();
         rebuildsInOrder();
         rebuildsBeforeMoves();
         rebuildsWhatHasPlaces();
@@ -161,6 +162,34 @@ public final class FaultsAndRebuildingTest {
         due.is("rottenOn(0), failed", x.rottenOn(0), 0);
         x.replace(0);
         due.is("rottenOn(0), replaced", x.rottenOn(0), 0);
+    }
+
+    /** A lost block that is written anew leaves the first slots free. */
+    private static void rottenBehindFreeSlots() {
+        VolumeShepherd x = Steps.array(3, 3);
+        x.addTenant(2, 0);
+        for (int block = 0; block < 3; block++) {
+            Steps.put(x, 0, block, block);
+        }
+        x.addDisk(32);
+        x.addDisk(32);
+        for (int slot = 0; slot < 2; slot++) {
+            x.rot(0, slot);
+            x.rot(1, slot);
+            Steps.put(x, 0, slot, 5);
+        }
+        x.rot(0, 2);
+        due.promise(34);
+        due.is("disk 0", Steps.lineOf(x, 0), "s 0.2!");
+        due.is("rottenOn(0), in the last slot", x.rottenOn(0), 1);
+        due.promise(33);
+        due.is("scrub(0), in the last slot", x.scrub(0), 1);
+        due.is("disk 0", Steps.lineOf(x, 0), "s 0.2");
+        due.is("scrub(1), nothing rotten", x.scrub(1), 0);
+        due.promise(29);
+        due.is("fail(1), in the last slot", x.fail(1), 1);
+        due.is("copiesOf(0, 2)", x.copiesOf(0, 2), 1);
+        due.is("usedOn(1)", x.usedOn(1), 0);
     }
 
     /** The order of the first writes, not that of the numbers. */

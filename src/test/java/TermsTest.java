@@ -202,6 +202,33 @@ public final class TermsTest {
         x.fail(2);
         x.pass(1);
         areDisksOf(x, 0, 0, 0);
+        rottenCopyTakesItsDisk();
+    }
+
+    /** The disk with the rotten copy has the most free slots. */
+    private static void rottenCopyTakesItsDisk() {
+        VolumeShepherd x = Steps.array(9, 3, 3);
+        x.addTenant(3, 0);
+        Steps.put(x, 0, 0, 1);
+        areDisksOf(x, 0, 0, 0, 1, 2);
+        x.rot(0, 0);
+        x.fail(1);
+        due.is("openRebuilds(), only beside the rotten one", x.openRebuilds(), 0);
+        x.pass(1);
+        areDisksOf(x, 0, 0, 0, 2);
+        x.replace(1);
+        due.is("openRebuilds(), a place again", x.openRebuilds(), 1);
+        x.pass(1);
+        areDisksOf(x, 0, 0, 0, 2, 1);
+        areLines(x, "s 0.0!", "s 0.0", "s 0.0");
+        x.warn(2);
+        due.is("openRebuilds(), no place to move to", x.openRebuilds(), 0);
+        x.pass(1);
+        areDisksOf(x, 0, 0, 0, 2, 1);
+        x.addDisk(1);
+        x.pass(1);
+        areDisksOf(x, 0, 0, 0, 1, 3);
+        areLines(x, "s 0.0!", "s 0.0", "w", "s 0.0");
     }
 
     private static void placeHasMostFreeSlots() {
